@@ -631,7 +631,7 @@ public final class DubDesk {
         }
 
         int longest(int syllable) {
-            return isOfKind(SUNG) ? leasts[syllable] : mosts[syllable];
+            return kind == SUNG || kind == WHISPER ? leasts[syllable] : mosts[syllable];
         }
 
         int costOver(int syllable, int shape) {

@@ -12,6 +12,7 @@ public final class LoopsTest {
         partsWithoutActors();
         oneActorOfTwoParts();
         firstPlan();
+        fewerCallsLater();
         everyChangeCounts();
         sevenLoops();
         Check.end();
@@ -195,6 +196,27 @@ public final class LoopsTest {
         Check.due("loop 1", x.planned(1), 0);
         Check.due("loop 2", x.planned(2), 1);
         Check.due("plans", x.plans(), 12);
+    }
+
+    private static void fewerCallsLater() {
+        DubDesk x = new DubDesk();
+        Check.addLines(x, 1);
+        x.actor(0, 0);
+        x.room(0, 5);
+        x.loop(1);
+        x.loop(1);
+        Check.due("both on one day", x.plan(), 1);
+        Check.due("not those of two days", x.plans(), 3);
+        Check.due("not day 0", x.planned(0), 1);
+        Check.due("nor the other", x.planned(1), 1);
+        x.room(0, 10);
+        Check.due("both on day 0", x.planned(0), 0);
+        x.room(0, 0);
+        x.room(1, 5);
+        x.room(2, 5);
+        x.room(3, 5);
+        Check.due("on two days", x.plan(), 2);
+        Check.due("six ways", x.plans(), 6);
     }
 
     /** What a plan rests on is asked anew after each act and after each undo. */

@@ -7,6 +7,7 @@ public final class TextsTest {
         sortsApart();
         chosenWords();
         choiceGoesWithTheName();
+        wordAndNameOf0();
         lawfulWordings();
         bestOfLines();
         bestNeedsAFit();
@@ -107,6 +108,29 @@ public final class TextsTest {
         Check.due("with another: the new one", x.chosen(0, 3, 5), 6);
         x.name(6, -1);
         Check.due("none again", x.chosen(0, 3, 5), Check.NONE);
+    }
+
+    private static void wordAndNameOf0() {
+        DubDesk x = Check.deskWithLine(1);
+        x.wording(0, 0, 0);
+        x.syllable(0, 1, 1, 1, 1);
+        x.name(0, 0);
+        x.name(1, 0);
+        x.text(0, 2, 0, 8);
+        Check.due("word 0 for name 0", x.chosen(0, 0, 8), 0);
+        Check.due("not word 1", x.lawful(0, 0, 8), 0);
+        x.text(0, 2, 1, 5);
+        Check.due("the first told has the latest day", x.chosen(0, 0, 9), 0);
+        Check.due("ahead of it", x.chosen(0, 0, 7), 1);
+        Check.due("then word 1 is it", x.lawful(0, 0, 7), 1);
+        x.text(1, 0, 0, 8);
+        x.text(1, 1, 0, 5);
+        Check.due("barred on the latest day", x.barred(1, 0, 8), 1);
+        Check.due("allowed ahead of it", x.barred(1, 0, 7), 0);
+        DubDesk y = new DubDesk();
+        y.text(0, 0, 0, 8);
+        y.text(0, 1, 0, 5);
+        Check.due("the first text of all", y.barred(0, 0, 8), 1);
     }
 
     private static void lawfulWordings() {

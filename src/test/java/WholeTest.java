@@ -3,6 +3,7 @@ public final class WholeTest {
     public static void main(String[] args) {
         everyActIsUndone();
         cutSyllablesComeBack();
+        everySyllableComesBackWhole();
         unloopedLoopsComeBack();
         changedFramesComeBack();
         onlyTwentyAreKept();
@@ -11,6 +12,8 @@ public final class WholeTest {
         sheetsStay();
         linesAreMadeAnew();
         wholeOfAll();
+        everyFindingCounts();
+        findingsOfFullDesks();
         Check.end();
     }
 
@@ -84,6 +87,25 @@ public final class WholeTest {
         x.put(0, 2, 2);
         x.change(0, 0);
         Check.due("its most", x.place(0, 0, true), 3);
+    }
+
+    private static void everySyllableComesBackWhole() {
+        for (int shape = 0; shape < 4; shape++) {
+            for (int least = 1; least <= 6; least++) {
+                for (int most = least; most <= 6; most++) {
+                    DubDesk x = Check.deskWithLine(shape, shape, shape, shape, shape, shape);
+                    x.wording(0, 0, 0);
+                    x.syllable(0, shape, least, most, 9);
+                    int cost = x.cost(0);
+                    x.cut(0);
+                    x.syllable(0, 3 - shape, 7 - most, 7 - least, 8);
+                    x.undo();
+                    x.undo();
+                    Check.due("cost", x.cost(0), cost);
+                    Check.due("length", x.place(0, 0, true), shape == 0 ? least : most);
+                }
+            }
+        }
     }
 
     private static void unloopedLoopsComeBack() {
@@ -240,5 +262,112 @@ public final class WholeTest {
         Check.due("findings", x.all(4), 2);
         x.undo();
         Check.due("findings", x.all(4), 2);
+    }
+
+    private static int counted = 0;
+
+    private static void dueCounted(String call, DubDesk x, int got, int want) {
+        Check.due(call, got, want);
+        counted++;
+        Check.due(call + " is counted", x.all(4), counted);
+    }
+
+    private static void everyFindingCounts() {
+        DubDesk x = Check.deskWithLine(1);
+        counted = 0;
+        dueCounted("frame", x, x.frame(1, 0), Check.BEYOND);
+        dueCounted("line", x, x.line(6), Check.BEYOND);
+        dueCounted("wording", x, x.wording(1, 0, 0), Check.BEYOND);
+        x.wording(0, 0, 0);
+        dueCounted("as", x, x.as(1, 0), Check.BEYOND);
+        dueCounted("as", x, x.as(0, 1), Check.KIND);
+        dueCounted("syllable", x, x.syllable(0, 0, 0, 1, 0), Check.BEYOND);
+        dueCounted("syllable", x, x.syllable(0, 0, 2, 1, 0), Check.SIZE);
+        dueCounted("cut", x, x.cut(1), Check.BEYOND);
+        dueCounted("cut", x, x.cut(0), Check.NONE);
+        dueCounted("of", x, x.of(1, 0), Check.BEYOND);
+        dueCounted("of", x, x.of(0, 4), Check.BEYOND);
+        dueCounted("told", x, x.told(1, 0), Check.BEYOND);
+        dueCounted("told", x, x.told(0, 3), Check.BEYOND);
+        dueCounted("shape", x, x.shape(0, 1), Check.BEYOND);
+        dueCounted("cost", x, x.cost(1), Check.BEYOND);
+        dueCounted("place", x, x.place(0, 0, false), Check.BEYOND);
+        dueCounted("on", x, x.on(0, 1), Check.BEYOND);
+        x.syllable(0, 0, 2, 2, 0);
+        dueCounted("cost", x, x.cost(0), Check.NONE);
+        dueCounted("place", x, x.place(0, 0, false), Check.NONE);
+        dueCounted("on", x, x.on(0, 0), Check.NONE);
+        dueCounted("name", x, x.name(0, 8), Check.BEYOND);
+        dueCounted("text", x, x.text(3, 0, 0, 0), Check.BEYOND);
+        dueCounted("barred", x, x.barred(3, 0, 0), Check.BEYOND);
+        dueCounted("chosen", x, x.chosen(3, 0, 0), Check.BEYOND);
+        dueCounted("chosen", x, x.chosen(0, 0, 0), Check.NONE);
+        dueCounted("lawful", x, x.lawful(0, 3, 0), Check.BEYOND);
+        dueCounted("best", x, x.best(0, 3, 0), Check.BEYOND);
+        dueCounted("best", x, x.best(0, 0, 0), Check.NONE);
+        dueCounted("worth", x, x.worth(3, 0), Check.BEYOND);
+        dueCounted("actor", x, x.actor(6, 0), Check.BEYOND);
+        dueCounted("free", x, x.free(8, 0), Check.BEYOND);
+        dueCounted("room", x, x.room(4, 0), Check.BEYOND);
+        dueCounted("loop", x, x.loop(2), Check.BEYOND);
+        dueCounted("loop", x, x.loop(0), Check.SIZE);
+        dueCounted("unloop", x, x.unloop(), Check.NONE);
+        dueCounted("planned", x, x.planned(0), Check.BEYOND);
+        findingsOfSheets(x);
+    }
+
+    private static void findingsOfSheets(DubDesk x) {
+        dueCounted("change", x, x.change(0, 4), Check.BEYOND);
+        dueCounted("change", x, x.change(0, 0), Check.MISSING);
+        dueCounted("kept", x, x.kept(0, 1), Check.BEYOND);
+        dueCounted("sheet", x, x.sheet(4, 8, 0), Check.BEYOND);
+        dueCounted("sheet", x, x.sheet(0, 8, -1), Check.SIZE);
+        dueCounted("sheet", x, x.sheet(0, 8, 31), Check.BEYOND);
+        dueCounted("put", x, x.put(4, 0, 0), Check.BEYOND);
+        dueCounted("put", x, x.put(0, 0, 0), Check.MISSING);
+        x.sheet(0, 8, 25);
+        dueCounted("put", x, x.put(0, 25, 0), Check.BEYOND);
+        dueCounted("change", x, x.change(0, 0), Check.SIZE);
+        dueCounted("copy", x, x.copy(0, 0, 4, 0, 0), Check.BEYOND);
+        dueCounted("copy", x, x.copy(0, 0, 1, 0, 0), Check.MISSING);
+        x.sheet(1, 16, 3);
+        dueCounted("copy", x, x.copy(0, 0, 1, 0, 0), Check.KIND);
+        dueCounted("copy", x, x.copy(0, 0, 0, 0, 26), Check.BEYOND);
+        dueCounted("all", x, x.all(5), Check.BEYOND);
+        for (int i = 0; i < 4; i++) {
+            x.undo();
+        }
+        dueCounted("undo", x, x.undo(), Check.NONE);
+    }
+
+    private static void findingsOfFullDesks() {
+        DubDesk x = new DubDesk();
+        counted = 0;
+        Check.addLines(x, 12);
+        dueCounted("line", x, x.line(0), Check.FULL);
+        for (int i = 0; i < 24; i++) {
+            x.frame(0, 0);
+        }
+        dueCounted("frame", x, x.frame(0, 0), Check.FULL);
+        for (int i = 0; i < 20; i++) {
+            x.wording(0, 0, 0);
+        }
+        dueCounted("wording", x, x.wording(0, 0, 0), Check.FULL);
+        for (int i = 0; i < 8; i++) {
+            x.syllable(0, 0, 1, 1, 0);
+        }
+        dueCounted("syllable", x, x.syllable(0, 0, 1, 1, 0), Check.FULL);
+        for (int i = 0; i < 40; i++) {
+            x.text(0, 0, 0, 0);
+        }
+        dueCounted("text", x, x.text(0, 0, 0, 0), Check.FULL);
+        for (int i = 0; i < 7; i++) {
+            x.loop(4095);
+        }
+        dueCounted("loop", x, x.loop(1), Check.FULL);
+        dueCounted("plan", x, x.plan(), Check.NONE);
+        dueCounted("planned", x, x.planned(6), Check.NONE);
+        Check.due("plans answers 0", x.plans(), 0);
+        Check.due("and is no finding", x.all(4), counted);
     }
 }
