@@ -21,6 +21,10 @@ final class Check {
         }
     }
 
+    static int wrong() {
+        return wrong;
+    }
+
     static void end() {
         System.out.println(asked + " answers, " + wrong + " not as due");
         if (wrong != 0 || asked == 0) {
