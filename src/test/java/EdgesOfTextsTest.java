@@ -170,6 +170,33 @@ public final class EdgesOfTextsTest {
         Check.due("without a name", x.lawful(0, 0, 5), 1);
         x.name(10, 1);
         Check.due("of a name for which none is chosen", x.lawful(0, 0, 5), 1);
+        wordsWithoutNames();
+        wordZeroIsChosen();
+    }
+
+    private static void wordsWithoutNames() {
+        DubDesk x = spoken(10);
+        x.text(0, 2, 20, 5);
+        Check.due("neither has a name, so none is chosen", x.lawful(0, 0, 5), 1);
+        x.name(20, 0);
+        Check.due("the other has one, this has none", x.lawful(0, 0, 5), 1);
+        x.name(10, 0);
+        Check.due("both have it", x.lawful(0, 0, 5), 0);
+        x.name(20, -1);
+        Check.due("the other lost it", x.lawful(0, 0, 5), 1);
+    }
+
+    private static void wordZeroIsChosen() {
+        DubDesk x = spoken(10);
+        x.name(10, 0);
+        x.name(0, 0);
+        x.text(0, 2, 0, 5);
+        Check.due("word 0 is chosen, not this", x.lawful(0, 0, 5), 0);
+        DubDesk y = spoken(0);
+        y.name(10, 0);
+        y.name(0, 0);
+        y.text(0, 2, 0, 5);
+        Check.due("word 0 is chosen, and is this", y.lawful(0, 0, 5), 1);
     }
 
     private static void worthOfOne() {

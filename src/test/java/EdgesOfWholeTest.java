@@ -1,3 +1,6 @@
+import java.util.ArrayList;
+import java.util.List;
+
 /** A test for each sentence of promises 34 and 35, and of what the terms say ahead of their items. */
 public final class EdgesOfWholeTest {
     /** The acts that can be undone, each as one call that FEW takes and that changes it. */
@@ -150,10 +153,29 @@ public final class EdgesOfWholeTest {
             Check.due("other " + i + ": the loop is undone", x.undo(), Desks.FEW_ACTS - 1);
             Check.due("other " + i + ": the loop is undone", x.all(3), 0);
         }
+        cutSyllables();
         DubDesk x = Desks.FEW.make();
         x.undo();
         Check.due("an undo is not undone: the room is", x.undo(), Desks.FEW_ACTS - 2);
         Check.due("the room", x.room(2, 4), 60);
+    }
+
+    /** On closed frames a syllable shows its least, on frames of its shape its most. */
+    private static void cutSyllables() {
+        for (int shape = 0; shape < 2; shape++) {
+            int[] frames = new int[6];
+            java.util.Arrays.fill(frames, shape);
+            Desks.Maker maker = () -> {
+                DubDesk x = Check.deskWithLine(frames);
+                x.wording(0, 0, 0);
+                x.syllable(0, 1, 2, 5, 9);
+                x.text(0, 0, 9, 0);
+                return x;
+            };
+            Edges.unchanged("cut and its undo", maker, x -> x.cut(0) + x.undo());
+            Edges.unchanged("cut, another, and their undos", maker,
+                x -> x.cut(0) + x.syllable(0, 2, 3, 4, 8) + x.undo() + x.undo());
+        }
     }
 
     private static int undone(Watch.Call act) {
@@ -219,6 +241,34 @@ public final class EdgesOfWholeTest {
         }
         sameFrames();
         idleActsPushOut();
+        actsAndUndosInTurn();
+    }
+
+    /** Rows of acts and of undos of all lengths, so that the twenty begin anywhere. */
+    private static void actsAndUndosInTurn() {
+        for (int acts = 1; acts <= 23; acts++) {
+            for (int undos = 1; undos <= 21; undos++) {
+                DubDesk x = new DubDesk();
+                List<Integer> rooms = new ArrayList<>(List.of(60));
+                for (int turn = 0; turn < 5; turn++) {
+                    for (int i = 0; i < acts; i++) {
+                        int v = (31 * turn + i) % 101;
+                        Check.due("room", x.room(1, v), rooms.get(rooms.size() - 1));
+                        rooms.add(v);
+                        while (rooms.size() > 21) {
+                            rooms.remove(0);
+                        }
+                    }
+                    for (int i = 0; i < undos; i++) {
+                        int more = rooms.size() - 2;
+                        Check.due(acts + " acts, " + undos + " undos", x.undo(), more < 0 ? Check.NONE : more);
+                        if (more >= 0) {
+                            rooms.remove(rooms.size() - 1);
+                        }
+                    }
+                }
+            }
+        }
     }
 
     private static void sameFrames() {

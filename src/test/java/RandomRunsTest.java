@@ -101,14 +101,19 @@ public final class RandomRunsTest {
             a[1] = new int[] {0, 8, 8, 16, 32}[random.nextInt(5)];
         }
         if (call[0].equals("loop") && random.nextInt(12) != 0) {
-            a[0] &= (1 << desk.all(0)) - 1;
+            a[0] &= (1 << howMany(0)) - 1;
         }
         return a;
     }
 
     private int drawSuchAsIs(int drawn, int most) {
-        int count = most == LINES ? desk.all(0) : most == WORDINGS ? desk.all(1) : 0;
+        int count = most == LINES ? howMany(0) : most == WORDINGS ? howMany(1) : 0;
         return count == 0 || random.nextInt(12) == 0 ? drawn : Math.floorMod(drawn, count);
+    }
+
+    /** Asks the slow desk: the other one has only 512 calls. */
+    private int howMany(int what) {
+        return slow.ask("all", new int[] {what});
     }
 
     private int drawNumber(int least, int most) {
