@@ -1,6 +1,4 @@
 import java.io.IOException;
-import java.nio.file.Files;
-import java.nio.file.Path;
 import java.util.LinkedHashMap;
 import java.util.LinkedHashSet;
 import java.util.Map;
@@ -17,7 +15,7 @@ final class Sentences {
     private final Map<String, Set<String>> untested = new LinkedHashMap<>();
 
     Sentences() throws IOException {
-        String text = Files.readString(Path.of(System.getProperty("dubdesk.document")));
+        String text = Pages.document();
         Matcher promise = PROMISE.matcher(text);
         while (promise.find()) {
             readPromise("Promise " + promise.group(1), promise.group(2));

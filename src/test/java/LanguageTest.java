@@ -1,10 +1,12 @@
+import java.io.IOException;
 import java.lang.reflect.Field;
 import java.lang.reflect.Method;
 import java.lang.reflect.Modifier;
 import java.nio.file.Files;
-import java.nio.file.Path;
 import java.util.ArrayList;
+import java.util.LinkedHashMap;
 import java.util.List;
+import java.util.Map;
 import java.util.Set;
 import java.util.TreeSet;
 import java.util.regex.Matcher;
@@ -12,50 +14,57 @@ import java.util.regex.Pattern;
 
 /** The document's face, and the rules of LANGUAGE.md that a scan of the source and of the class can see. */
 public final class LanguageTest {
-    private static final String[] FACE = {"int line(int)", "int frame(int,int)", "int wording(int,int,int)",
-        "int as(int,int)", "int syllable(int,int,int,int,int)", "int cut(int)", "int of(int,int)", "int told(int,int)",
-        "int shape(int,int)", "int cost(int)", "int place(int,int,boolean)", "int on(int,int)", "int name(int,int)",
-        "int text(int,int,int,int)", "int barred(int,int,int)", "int chosen(int,int,int)", "int lawful(int,int,int)",
-        "int best(int,int,int)", "int worth(int,int)", "int actor(int,int)", "int free(int,int)", "int room(int,int)",
-        "int loop(int)", "int unloop()", "int plan()", "int planned(int)", "int plans()", "int change(int,int)",
-        "int kept(int,int)", "int sheet(int,int,int)", "int put(int,int,int)", "int copy(int,int,int,int,int)",
-        "int undo()", "int all(int)"};
-
     private static final String[] BARRED = {"\\bthrow\\b", "\\btry\\b", "\\bcatch\\b", "\\bsynchronized\\b",
         "\\bassert\\b", "\\bprotected\\b", "\\bvolatile\\b", "\\bnative\\b", "\\bvar\\b", "\\bthrows\\b", "->", "::",
         "\\bpackage\\b", "\\bimport\\b", "\\w+Exact\\b", "\\bstatic\\s*\\{", "@\\w+", "\\bThread\\b", "\\bRandom\\b",
         "\\bSystem\\.(?!arraycopy\\b)", "\\bMath\\.(?!min\\b|max\\b)", "\\bInteger\\.(?!bitCount\\b)", "\"", "'"};
 
-    public static void main(String[] args) throws Exception {
-        face();
-        members();
-        String code = withoutComments(Files.readString(Path.of(System.getProperty("dubdesk.source"))));
+    /** A method's head, with what is ahead of its name, its name, and its indent: 4 of the desk's own, 8 of a class inside. */
+    private static final Pattern HEAD = Pattern.compile("^( {4}| {8})(\\w[\\w\\[\\] ]*? )?(\\w+)\\([^;=]*$");
+
+    private final String code;
+    private final List<String> face;
+    private final Map<String, String> bodies = new LinkedHashMap<>();
+
+    private LanguageTest(String source, List<String> heads) {
+        code = source.replaceAll("(?s)/\\*.*?\\*/", "").replaceAll("//[^\n]*", "");
+        face = heads;
+    }
+
+    public static void main(String[] args) throws IOException {
+        LanguageTest test = new LanguageTest(Files.readString(Pages.SOURCE), Pages.face());
+        test.heads();
+        test.members();
         for (String pattern : BARRED) {
-            Matcher found = Pattern.compile(pattern).matcher(code);
+            Matcher found = Pattern.compile(pattern).matcher(test.code);
             Check.due("the source has " + pattern, found.find() ? 1 : 0, 0);
         }
-        methods(code);
+        test.methods();
+        test.depth();
+        test.objects();
         Check.end();
     }
 
-    private static String withoutComments(String text) {
-        return text.replaceAll("(?s)/\\*.*?\\*/", "").replaceAll("//[^\n]*", "");
+    private static String typesOf(Method m) {
+        List<String> types = new ArrayList<>();
+        for (Class<?> type : m.getParameterTypes()) {
+            types.add(type.getName());
+        }
+        return m.getReturnType() + " " + m.getName() + "(" + String.join(",", types) + ")";
     }
 
-    private static void face() {
+    private void heads() {
         Set<String> found = new TreeSet<>();
         for (Method m : DubDesk.class.getDeclaredMethods()) {
             if (!Modifier.isPrivate(m.getModifiers())) {
-                List<String> types = new ArrayList<>();
-                for (Class<?> type : m.getParameterTypes()) {
-                    types.add(type.getName());
-                }
-                boolean plain = m.getModifiers() == Modifier.PUBLIC;
-                found.add((plain ? "" : "not plain: ") + m.getReturnType() + " " + m.getName() + "(" + String.join(",", types) + ")");
+                found.add((m.getModifiers() == Modifier.PUBLIC ? "" : "not plain: ") + typesOf(m));
             }
         }
-        for (String method : FACE) {
-            Check.due("the face has " + method, found.remove(method) ? 1 : 0, 1);
+        Check.due("calls of the document", face.size(), 34);
+        for (String head : face) {
+            Check.due("the source has " + head, code.contains("\n    public " + head + " {\n") ? 1 : 0, 1);
+            String types = head.replaceAll(" \\w+(?=[,)])", "").replace(", ", ",");
+            Check.due("the face has " + types, found.remove(types) ? 1 : 0, 1);
         }
         Check.due("more in the face: " + found, found.size(), 0);
         Check.due("public and final", DubDesk.class.getModifiers(), Modifier.PUBLIC | Modifier.FINAL);
@@ -63,7 +72,7 @@ public final class LanguageTest {
         Check.due("public ones", DubDesk.class.getConstructors().length, 1);
     }
 
-    private static void members() {
+    private void members() {
         List<Class<?>> classes = new ArrayList<>(List.of(DubDesk.class.getDeclaredClasses()));
         for (Class<?> inside : classes) {
             Check.due(inside + " is static", Modifier.isStatic(inside.getModifiers()) ? 1 : 0, 1);
@@ -88,10 +97,10 @@ public final class LanguageTest {
         }
     }
 
-    private static boolean borrowsName(Class<?> each, Method m) {
+    private boolean borrowsName(Class<?> each, Method m) {
         boolean ofFace = each == DubDesk.class && Modifier.isPublic(m.getModifiers());
-        for (String method : FACE) {
-            if (!ofFace && method.startsWith("int " + m.getName() + "(")) {
+        for (String head : face) {
+            if (!ofFace && head.startsWith("int " + m.getName() + "(")) {
                 return true;
             }
         }
@@ -99,23 +108,59 @@ public final class LanguageTest {
     }
 
     /** Each method's lines, from its head to the brace that closes it. */
-    private static void methods(String code) {
+    private void methods() {
         String[] lines = code.split("\n");
         int head = -1;
         String indent = "";
-        int seen = 0;
+        String name = "";
         for (int i = 0; i < lines.length; i++) {
-            Matcher m = Pattern.compile("^( {4}| {8})\\w[\\w\\[\\] ]*\\([^;=]*$").matcher(lines[i]);
+            Matcher m = HEAD.matcher(lines[i]);
             if (head < 0 && m.find()) {
                 head = i;
                 indent = m.group(1);
-                seen++;
+                name = m.group(3);
             }
             if (head >= 0 && lines[i].equals(indent + "}")) {
-                Check.due("short method at " + lines[head].trim(), i - head < 60 ? 1 : 0, 1);
+                Check.due("short method " + name, i - head < 60 ? 1 : 0, 1);
+                bodies.merge(name, String.join("\n", List.of(lines).subList(head + 1, i)), String::concat);
                 head = -1;
             }
         }
-        Check.due("methods were seen", seen > FACE.length ? 1 : 0, 1);
+        Check.due("methods were seen", bodies.size() > face.size() + 30 ? 1 : 0, 1);
+    }
+
+    /** Calls go at most eight deep; methods of one name count as one, which can only make it deeper. */
+    private void depth() {
+        for (String head : face) {
+            String name = head.replaceAll("int (\\w+).*", "$1");
+            int deep = depthOf(name, new ArrayList<>());
+            Check.due("calls from " + name + " go " + deep + " deep", deep <= 8 ? 1 : 0, 1);
+        }
+    }
+
+    private int depthOf(String name, List<String> open) {
+        if (open.contains(name)) {
+            Check.due(name + " calls itself", name.equals("giveDays") ? 1 : 0, 1);
+            return 0;
+        }
+        int deepest = 0;
+        open.add(name);
+        Matcher call = Pattern.compile("\\b(\\w+)\\(").matcher(bodies.get(name));
+        while (call.find()) {
+            if (bodies.containsKey(call.group(1))) {
+                deepest = Math.max(deepest, depthOf(call.group(1), open));
+            }
+        }
+        open.remove(name);
+        return deepest + 1;
+    }
+
+    /** The room is small, so only fields and constructors make objects: a run of calls makes none. */
+    private void objects() {
+        for (Map.Entry<String, String> method : bodies.entrySet()) {
+            boolean makes = Pattern.compile("\\bnew\\b|\\bclone\\b|\\{[^;]*\\};").matcher(method.getValue()).find();
+            boolean constructor = code.contains("class " + method.getKey() + " {");
+            Check.due(method.getKey() + " makes objects", makes && !constructor ? 1 : 0, 0);
+        }
     }
 }

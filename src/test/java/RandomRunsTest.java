@@ -61,6 +61,9 @@ public final class RandomRunsTest {
         for (int seed = 0; seed < 240; seed++) {
             new RandomRunsTest(seed).run(seed);
         }
+        for (int seed = 0; seed < 12; seed++) {
+            new RandomRunsTest(seed).runOn();
+        }
         Check.end();
     }
 
@@ -71,6 +74,19 @@ public final class RandomRunsTest {
             String told = "seed " + seed + ", call " + i + ": " + call[0] + Arrays.toString(a);
             Check.due(told, ask((String) call[0], a), slow.ask((String) call[0], a));
         }
+    }
+
+    /** Behind the 512th call answers are free, but no call may throw or fail to end. */
+    private void runOn() {
+        int answered = 0;
+        for (int i = 0; i < 4096; i++) {
+            Object[] call = draw();
+            int[] a = drawArguments(call);
+            ask((String) call[0], a);
+            slow.ask((String) call[0], a);
+            answered++;
+        }
+        Check.due("calls that came to an end", answered, 4096);
     }
 
     private Object[] draw() {
