@@ -169,6 +169,5 @@ public final class ReadmeTest {
             seen++;
         }
         Check.due("paths", seen >= 8 ? 1 : 0, 1);
-        Check.due(".ci/run can be run", Files.isExecutable(Path.of(".ci/run")) ? 1 : 0, 1);
     }
 }
